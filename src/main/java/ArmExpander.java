@@ -83,7 +83,7 @@ public final class ArmExpander {
     }
 
     public int arms(int k) {
-        return k >= 0 && k < count ? places[k].armCount : NONE;
+        return k >= 0 && k < count ? places[k].armCount() : NONE;
     }
 
     public int token(int k) {
@@ -309,38 +309,38 @@ public final class ArmExpander {
         }
 
         void join(int opening, int closing) {
-            if (has(opening) && has(closing)) {
+            if (opening >= 0 && opening < size && closing >= 0 && closing < size) {
                 partner[opening] = closing;
                 partner[closing] = opening;
             }
         }
 
         void setMark(int repetition, int place) {
-            if (has(repetition)) {
+            if (repetition >= 0 && repetition < size && place >= 0 && place < size) {
                 markPlace[repetition] = place;
             }
         }
 
         void setOrder(int repetition, int number) {
-            if (has(repetition)) {
+            if (repetition >= 0 && repetition < size) {
                 order[repetition] = number;
             }
-        }
-
-        private boolean has(int place) {
-            return place >= 0 && place < size;
         }
 
         int name() {
             return size > 0 ? code[0] : NONE;
         }
 
+        int armCount() {
+            return armCount;
+        }
+
         int codeAt(int place) {
-            return has(place) ? code[place] : NONE;
+            return place >= 0 && place < size ? code[place] : NONE;
         }
 
         int partnerOf(int bracket) {
-            return has(bracket) ? partner[bracket] : NONE;
+            return bracket >= 0 && bracket < size ? partner[bracket] : NONE;
         }
 
         int patternStart(int arm) {
@@ -361,35 +361,41 @@ public final class ArmExpander {
             return partnerOf(patternEnd(arm) + 1);
         }
 
-        /** Whether a fragment (in a pattern) or a use (in a body) begins here. */
+        /** Whether a fragment (in a pattern) or a use (in a body) begins here: a $ that begins no repetition. */
         boolean startsVariable(int place) {
-            return has(place) && code[place] == '$' && has(place + 1) && isWord(code[place + 1]);
+            return place >= 0 && place + 1 < size && code[place] == '$' && code[place + 1] != '(';
         }
 
         boolean startsRepetition(int place) {
-            return has(place) && code[place] == '$' && has(place + 1) && code[place + 1] == '(';
+            return place >= 0 && place + 1 < size && code[place] == '$' && code[place + 1] == '(';
         }
 
         /** The repetition whose ) stands here, or NONE. */
         int repetitionEndedAt(int place) {
-            if (!has(place) || code[place] != ')') {
+            if (place < 0 || place >= size || code[place] != ')') {
                 return NONE;
             }
             int start = partner[place] - 1;
-            return has(start) && code[start] == '$' ? start : NONE;
+            return start >= 0 && code[start] == '$' ? start : NONE;
         }
 
         int markOf(int repetition) {
-            return has(repetition) && has(markPlace[repetition]) ? code[markPlace[repetition]] : NONE;
+            if (repetition < 0 || repetition >= size || markPlace[repetition] < 0) {
+                return NONE;
+            }
+            return code[markPlace[repetition]];
         }
 
         int behind(int repetition) {
-            return has(repetition) && has(markPlace[repetition]) ? markPlace[repetition] + 1 : size;
+            if (repetition < 0 || repetition >= size || markPlace[repetition] < 0) {
+                return size;
+            }
+            return markPlace[repetition] + 1;
         }
 
         /** The place of the repetition's separator, or NONE. */
         int separatorOf(int repetition) {
-            if (!has(repetition) || !has(repetition + 1)) {
+            if (repetition < 0 || repetition + 1 >= size) {
                 return NONE;
             }
             int closing = partner[repetition + 1];
@@ -398,35 +404,39 @@ public final class ArmExpander {
 
         /** The innermost repetition around a place, or NONE. */
         int repetitionAround(int place) {
-            return has(place) ? around[place] : NONE;
+            return place >= 0 && place < size ? around[place] : NONE;
         }
 
         int repetitionsAround(int place) {
-            if (!has(place) || !has(around[place])) {
-                return 0;
-            }
-            return around[around[place]] == NONE ? 1 : 2;
+            int inner = repetitionAround(place);
+            return inner == NONE ? 0 : repetitionAround(inner) == NONE ? 1 : 2;
         }
 
         /** The number in its pattern of a repetition that is in no other; NONE if it is in one. */
         int outerOrder(int repetition) {
-            return has(repetition) && around[repetition] == NONE ? order[repetition] : NONE;
+            if (repetition < 0 || repetition >= size || around[repetition] != NONE) {
+                return NONE;
+            }
+            return order[repetition];
         }
 
         /** The number in its pattern of the outermost repetition around a place, or NONE. */
         int orderAround(int place) {
-            if (!has(place) || !has(around[place])) {
+            if (place < 0 || place >= size || around[place] < 0) {
                 return NONE;
             }
             int inner = around[place];
-            return has(around[inner]) ? order[around[inner]] : order[inner];
+            return around[inner] < 0 ? order[inner] : order[around[inner]];
         }
 
         /** The place of the fragment with the given word in the arm's pattern, or NONE. */
         int fragmentOf(int arm, int word) {
-            int end = patternEnd(arm);
-            for (int i = patternStart(arm); i < end; i++) {
-                if (startsVariable(i) && code[i + 1] == word) {
+            if (arm < 0 || arm >= armCount) {
+                return NONE;
+            }
+            int end = Math.min(partner[armPlace[arm]], size - 1);
+            for (int i = armPlace[arm]; i < end; i++) {
+                if (code[i] == '$' && code[i + 1] == word) {
                     return i;
                 }
             }
@@ -488,7 +498,7 @@ public final class ArmExpander {
                     inPattern = false;
                     return acceptsIf(code == '{' && nesting.open(place, code), PART);
                 case ARM_END:
-                    return acceptsIf(code == ';' && into.armCount < ARM_LIMIT, PATTERN);
+                    return acceptsIf(code == ';' && into.armCount() < ARM_LIMIT, PATTERN);
                 case BEHIND_DOLLAR:
                     return acceptsBehindDollar(code);
                 case COLON:
@@ -575,7 +585,7 @@ public final class ArmExpander {
 
         int check(Definition definition) {
             int failed = OK;
-            for (int arm = 0; arm < definition.armCount && failed == OK; arm++) {
+            for (int arm = 0; arm < definition.armCount() && failed == OK; arm++) {
                 failed = checkArm(definition, arm);
             }
             return failed;
@@ -741,7 +751,12 @@ public final class ArmExpander {
             int ended = definition.repetitionEndedAt(place);
             if (ended != NONE) {
                 arrive(definition.behind(ended), way + 1);
-                arriveAnew(ended, way + 1);
+                int separator = definition.separatorOf(ended);
+                if (separator != NONE) {
+                    stand(separator);
+                } else if (definition.markOf(ended) != '?') {
+                    beginRound(ended, way + 1);
+                }
             } else if (definition.startsRepetition(place)) {
                 if (definition.markOf(place) != '+') {
                     arrive(definition.behind(place), way + 1);
@@ -749,18 +764,6 @@ public final class ArmExpander {
                 beginRound(place, way + 1);
             } else {
                 stand(place);
-            }
-        }
-
-        private void arriveAnew(int repetition, int way) {
-            if (definition.markOf(repetition) == '?') {
-                return;
-            }
-            int separator = definition.separatorOf(repetition);
-            if (separator == NONE) {
-                beginRound(repetition, way);
-            } else {
-                stand(separator);
             }
         }
 
@@ -780,8 +783,11 @@ public final class ArmExpander {
             if (place < 0 || place >= TEXT_LIMIT) {
                 return;
             }
-            many[place] = Math.min(MORE, many[place] + weight);
-            System.arraycopy(ownRounds, 0, rounds, place * REPETITION_LIMIT, REPETITION_LIMIT);
+            int together = many[place] + weight;
+            many[place] = together < MORE ? together : MORE;
+            for (int i = 0; i < REPETITION_LIMIT; i++) {
+                rounds[place * REPETITION_LIMIT + i] = ownRounds[i];
+            }
         }
     }
 
@@ -878,11 +884,25 @@ public final class ArmExpander {
             standing.arrive(start, 0);
             int at = from;
             for (int i = 0; i < ROW_LIMIT && at < to; i++) {
-                at = step(at);
-                if (at < 0) {
-                    return at;
+                int fitting = findFitting(row.codeAt(at));
+                if (fitting == AMBIGUOUS) {
+                    return AMBIGUOUS;
                 }
+                int behind = fitting == NONE ? at + 1 : endOfTaken(definition.codeAt(fitting + 3), at);
+                if (behind == NONE) {
+                    return NO_ARM_MATCHES;
+                }
+                if (fitting == NONE) {
+                    stepOver(row.codeAt(at));
+                } else {
+                    take(fitting, at, behind);
+                }
+                at = behind;
             }
+            return conclude();
+        }
+
+        private int conclude() {
             for (int order = 0; order < REPETITION_LIMIT; order++) {
                 takings.setRounds(order, standing.roundsAt(end, order));
             }
@@ -890,32 +910,21 @@ public final class ArmExpander {
             return ended == 0 ? NO_ARM_MATCHES : ended == 1 ? OK : AMBIGUOUS;
         }
 
-        /** The place behind what was taken or stepped over, or why there is none. */
-        private int step(int at) {
-            int token = row.codeAt(at);
+        /** The fragment before which the one fitting thread stands, NONE if none fits, or AMBIGUOUS. */
+        private int findFitting(int token) {
             int fitting = 0;
             int stepping = 0;
             int fragment = NONE;
             for (int i = start; i < end; i++) {
-                if (standing.manyAt(i) == 0) {
-                    continue;
-                }
-                if (definition.codeAt(i) == '$') {
-                    if (canBegin(definition.codeAt(i + 3), token)) {
-                        fitting += standing.manyAt(i);
-                        fragment = i;
-                    }
-                } else if (definition.codeAt(i) == token) {
-                    stepping += standing.manyAt(i);
+                int many = standing.manyAt(i);
+                if (many > 0 && definition.codeAt(i) == token && token != '$') {
+                    stepping += many;
+                } else if (many > 0 && definition.startsVariable(i) && canBegin(definition.codeAt(i + 3), token)) {
+                    fitting += many;
+                    fragment = i;
                 }
             }
-            if (fitting > 1 || fitting == 1 && stepping > 0) {
-                return AMBIGUOUS;
-            }
-            if (fitting == 1) {
-                return take(fragment, at);
-            }
-            return stepping > 0 ? stepOver(token, at) : NO_ARM_MATCHES;
+            return fitting > 1 || fitting == 1 && stepping > 0 ? AMBIGUOUS : fragment;
         }
 
         private static boolean canBegin(int kind, int token) {
@@ -931,21 +940,7 @@ public final class ArmExpander {
             }
         }
 
-        private int take(int fragment, int at) {
-            int behind = endOfTaken(definition.codeAt(fragment + 3), at);
-            if (behind == NONE) {
-                return NO_ARM_MATCHES;
-            }
-            int order = definition.orderAround(fragment);
-            int outerRound = order == NONE ? 0 : standing.roundsAt(fragment, order) - 1;
-            takings.add(fragment, outerRound, at, behind);
-            coming.clear(definition);
-            coming.setOutFrom(standing, fragment);
-            coming.arrive(fragment + 4, 0);
-            exchange();
-            return behind;
-        }
-
+        /** The place behind what a fragment takes, or NONE if it is an expression and there is none. */
         private int endOfTaken(int kind, int at) {
             if (kind == KIND_EX) {
                 return endOfExpression(at, 0);
@@ -953,7 +948,18 @@ public final class ArmExpander {
             return kind == KIND_TT && isOpening(row.codeAt(at)) ? row.closingOfBracketAt(at) + 1 : at + 1;
         }
 
-        private int stepOver(int token, int at) {
+        private void take(int fragment, int from, int to) {
+            int order = definition.orderAround(fragment);
+            int outerRound = order == NONE ? 0 : standing.roundsAt(fragment, order) - 1;
+            takings.add(fragment, outerRound, from, to);
+            coming.clear(definition);
+            coming.setOutFrom(standing, fragment);
+            coming.arrive(fragment + 4, 0);
+            exchange();
+        }
+
+        /** All threads before this token go on over it; if there is none, no thread is left. */
+        private void stepOver(int token) {
             coming.clear(definition);
             for (int i = start; i < end; i++) {
                 if (standing.manyAt(i) > 0 && definition.codeAt(i) == token && token != '$') {
@@ -967,7 +973,6 @@ public final class ArmExpander {
                 }
             }
             exchange();
-            return at + 1;
         }
 
         private void exchange() {
@@ -1264,7 +1269,10 @@ public final class ArmExpander {
             int call = row.callFrom(0);
             // One call more than may be expanded is looked at: it is the one at which the error comes.
             for (int i = 0; i <= EXPANSION_LIMIT && call != NONE && error == OK; i++) {
-                error = replace(latest(definitions, count, row.codeAt(call)), call);
+                Definition definition = latest(definitions, count, row.codeAt(call));
+                int end = row.closingOfBracketAt(call + 2);
+                int arm = definition == null ? NO_DEFINITION : chooseArm(definition, call + 3, end);
+                error = arm < 0 ? arm : replace(definition, arm, call, end);
                 call = row.callFrom(call);
             }
             if (error != OK) {
@@ -1283,16 +1291,8 @@ public final class ArmExpander {
             return null;
         }
 
-        /** Puts the body of the arm that matches in the place of a call; OK or the error. */
-        private int replace(Definition definition, int call) {
-            if (definition == null) {
-                return NO_DEFINITION;
-            }
-            int end = row.closingOfBracketAt(call + 2);
-            int arm = chooseArm(definition, call + 3, end);
-            if (arm < 0) {
-                return arm;
-            }
+        /** Puts an arm's body in the place of the call that ends at a place; OK or the error. */
+        private int replace(Definition definition, int arm, int call, int end) {
             if (done >= EXPANSION_LIMIT) {
                 return TOO_MANY_EXPANSIONS;
             }
@@ -1314,7 +1314,7 @@ public final class ArmExpander {
 
         /** The first arm that matches, or NO_ARM_MATCHES or AMBIGUOUS. */
         private int chooseArm(Definition definition, int from, int to) {
-            for (int arm = 0; arm < definition.armCount; arm++) {
+            for (int arm = 0; arm < definition.armCount(); arm++) {
                 int answer = matcher.match(definition, arm, row, from, to);
                 if (answer != NO_ARM_MATCHES) {
                     return answer == OK ? arm : answer;
