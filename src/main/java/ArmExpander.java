@@ -434,8 +434,8 @@ public final class ArmExpander {
             if (arm < 0 || arm >= armCount) {
                 return NONE;
             }
-            int end = Math.min(partner[armPlace[arm]], size - 1);
-            for (int i = armPlace[arm]; i < end; i++) {
+            int end = partner[armPlace[arm]];
+            for (int i = armPlace[arm]; i < end && i + 1 < size; i++) {
                 if (code[i] == '$' && code[i + 1] == word) {
                     return i;
                 }
@@ -651,7 +651,7 @@ public final class ArmExpander {
         private boolean isKeptApart(Definition definition, int place, int end) {
             threads.clear(definition);
             threads.setOut();
-            threads.arrive(place, 0);
+            threads.arrive(place);
             for (int i = 0; i <= end; i++) {
                 int code = definition.codeAt(i);
                 if (threads.manyAt(i) > 0 && code != ',' && code != ';' && !isClosing(code)) {
@@ -744,38 +744,46 @@ public final class ArmExpander {
         }
 
         /** What is on its way comes to a place, and on from there until it stands before a token or the end. */
-        void arrive(int place, int way) {
+        void arrive(int place) {
+            walk(place, 0);
+        }
+
+        /** What is on its way begins the elements of a repetition (anew, if it comes from its separator). */
+        void beginRound(int repetition) {
+            int order = definition.outerOrder(repetition);
+            if (order >= 0 && order < REPETITION_LIMIT) {
+                ownRounds[order]++;
+            }
+            walk(repetition + 2, 0);
+        }
+
+        private void walk(int place, int way) {
             if (way > WAY_LIMIT) {
                 return;
             }
             int ended = definition.repetitionEndedAt(place);
-            if (ended != NONE) {
-                arrive(definition.behind(ended), way + 1);
-                int separator = definition.separatorOf(ended);
-                if (separator != NONE) {
-                    stand(separator);
-                } else if (definition.markOf(ended) != '?') {
-                    beginRound(ended, way + 1);
-                }
-            } else if (definition.startsRepetition(place)) {
-                if (definition.markOf(place) != '+') {
-                    arrive(definition.behind(place), way + 1);
-                }
-                beginRound(place, way + 1);
-            } else {
+            boolean begins = definition.startsRepetition(place);
+            if (ended == NONE && !begins) {
                 stand(place);
+                return;
             }
-        }
-
-        void beginRound(int repetition, int way) {
-            int order = definition.outerOrder(repetition);
-            boolean counted = order >= 0 && order < REPETITION_LIMIT;
-            if (counted) {
-                ownRounds[order]++;
+            int repetition = begins ? place : ended;
+            if (!begins || definition.markOf(repetition) != '+') {
+                walk(definition.behind(repetition), way + 1);
             }
-            arrive(repetition + 2, way);
-            if (counted) {
-                ownRounds[order]--;
+            int separator = definition.separatorOf(repetition);
+            if (!begins && separator != NONE) {
+                stand(separator);
+            } else if (begins || definition.markOf(repetition) != '?') {
+                int order = definition.outerOrder(repetition);
+                boolean counted = order >= 0 && order < REPETITION_LIMIT;
+                if (counted) {
+                    ownRounds[order]++;
+                }
+                walk(repetition + 2, way + 1);
+                if (counted) {
+                    ownRounds[order]--;
+                }
             }
         }
 
@@ -881,7 +889,7 @@ public final class ArmExpander {
             takings.clear();
             standing.clear(of);
             standing.setOut();
-            standing.arrive(start, 0);
+            standing.arrive(start);
             int at = from;
             for (int i = 0; i < ROW_LIMIT && at < to; i++) {
                 int fitting = findFitting(row.codeAt(at));
@@ -954,7 +962,7 @@ public final class ArmExpander {
             takings.add(fragment, outerRound, from, to);
             coming.clear(definition);
             coming.setOutFrom(standing, fragment);
-            coming.arrive(fragment + 4, 0);
+            coming.arrive(fragment + 4);
             exchange();
         }
 
@@ -966,9 +974,9 @@ public final class ArmExpander {
                     coming.setOutFrom(standing, i);
                     int separated = definition.repetitionEndedAt(i - 1);
                     if (separated == NONE) {
-                        coming.arrive(i + 1, 0);
+                        coming.arrive(i + 1);
                     } else {
-                        coming.beginRound(separated, 0);
+                        coming.beginRound(separated);
                     }
                 }
             }
@@ -1079,8 +1087,11 @@ public final class ArmExpander {
 
         /** The place of the binder that the word at a place means, or NONE. */
         int binderOf(int place) {
-            if (!isWord(codeAt(place)) || isBinder(place)) {
-                return isWord(codeAt(place)) ? place : NONE;
+            if (!isWord(codeAt(place))) {
+                return NONE;
+            }
+            if (isBinder(place)) {
+                return place;
             }
             int closed = 0;
             for (int i = place - 1; i >= 0; i--) {
