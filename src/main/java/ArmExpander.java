@@ -868,7 +868,7 @@ public final class ArmExpander {
 
     /** Matches a pattern against what is in a call's bracket. */
     private static final class Matcher {
-        private final Takings takings;
+        private final Takings takings = new Takings();
         private Threads standing = new Threads();
         private Threads coming = new Threads();
         private Definition definition;
@@ -876,8 +876,9 @@ public final class ArmExpander {
         private int end;
         private Row row;
 
-        Matcher(Takings takings) {
-            this.takings = takings;
+        /** What was taken in the last match. */
+        Takings takings() {
+            return takings;
         }
 
         /** OK if the arm's pattern matches the tokens from .. to - 1 of the row; else NO_ARM_MATCHES or AMBIGUOUS. */
@@ -1119,22 +1120,20 @@ public final class ArmExpander {
     private static final class Writer {
         private static final int DIFFERENT = -1;
 
-        private final Takings takings;
         // The present rounds of the outer and of the inner repetition; 0 outside of them, as for the takings there.
         private final int[] present = new int[2];
         private Definition definition;
         private int arm;
         private int origin;
+        private Takings takings;
         private Row source;
         private Row into;
 
-        Writer(Takings takings) {
-            this.takings = takings;
-        }
-
-        void setRows(Row taken, Row written) {
-            source = taken;
-            into = written;
+        /** What is written comes from what a match took of a row, and goes into another row. */
+        void prepare(Takings taken, Row from, Row to) {
+            takings = taken;
+            source = from;
+            into = to;
         }
 
         /** False if repetitions are unequal. */
@@ -1221,9 +1220,8 @@ public final class ArmExpander {
     /** Expands the calls of a text, and keeps the outcome. */
     private static final class Expander {
         private final Nesting nesting = new Nesting();
-        private final Takings takings = new Takings();
-        private final Matcher matcher = new Matcher(takings);
-        private final Writer writer = new Writer(takings);
+        private final Matcher matcher = new Matcher();
+        private final Writer writer = new Writer();
         private final int[] chosenArms = new int[EXPANSION_LIMIT];
         private Row row = new Row();
         private Row spare = new Row();
@@ -1309,7 +1307,7 @@ public final class ArmExpander {
             }
             spare.clear();
             spare.addAll(row, 0, call);
-            writer.setRows(row, spare);
+            writer.prepare(matcher.takings(), row, spare);
             if (!writer.write(definition, arm, done + 1)) {
                 return UNEQUAL;
             }
