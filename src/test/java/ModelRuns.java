@@ -18,12 +18,13 @@ public final class ModelRuns {
 
     public static void main(String[] args) {
         long first = args.length > 0 ? Long.parseLong(args[0]) : 1;
-        int runs = args.length > 1 ? Integer.parseInt(args[1]) : 4000;
+        int runs = args.length > 1 ? Integer.parseInt(args[1]) : 6000;
         for (int i = 0; i < runs && wrong < 10; i++) {
             new Run(first + i).go();
         }
         for (String due : List.of("-1000", "-1001", "-1002", "-1003", "-1004", "fault of a definition", "defined",
-                "-2000", "-2001", "-2002", "-2003", "-2004", "-2005", "fault of a text", "expanded", "means one")) {
+                "-2000", "-2001", "-2002", "-2003", "-2004", "-2005", "fault of a text", "expanded", "means one",
+                "all of an object's calls")) {
             if (seen.getOrDefault(due, 0) == 0 && args.length == 0) {
                 wrong++;
                 System.out.println("no run came to: " + due);
@@ -797,7 +798,7 @@ public final class ModelRuns {
     private static final class Run {
         final long seed;
         final Random random;
-        final ArmExpander program = new ArmExpander();
+        final Calls program = new Calls();
         final Model model = new Model();
         final StringBuilder told = new StringBuilder();
         final Map<String, Integer> depths = new HashMap<>();
@@ -808,7 +809,16 @@ public final class ModelRuns {
             this.random = new Random(seed * 7919);
         }
 
+        /** The run ends, wherever it is, where the object has answered all calls that are promised. */
         void go() {
+            try {
+                goOn();
+            } catch (Calls.Spent e) {
+                count("all of an object's calls");
+            }
+        }
+
+        void goOn() {
             int steps = 4 + random.nextInt(14);
             for (int i = 0; i < steps && wrong < 10; i++) {
                 if (random.nextInt(3) == 0 || i < 2) {
@@ -833,8 +843,24 @@ public final class ModelRuns {
                 for (int j = 0; j < n; j++) {
                     word = word << 8 | text.charAt(i + j);
                 }
+                if (random.nextInt(20) == 0) {
+                    refusedType(word, n);
+                }
                 due("type", program.type(word, n) ? 1 : 0, 1);
                 i += n;
+            }
+            if (text.length() > 116) {
+                due("type of too many", program.type(0x2B2B2B2B, 4) ? 1 : 0, 0);
+            }
+        }
+
+        void refusedType(int word, int n) {
+            if (random.nextBoolean()) {
+                due("type of a wrong number", program.type(word, pick(-1, 0, 5, 257, Integer.MIN_VALUE)) ? 1 : 0, 0);
+            } else {
+                int place = 8 * random.nextInt(n);
+                int spoilt = word & ~(255 << place) | pick(0, 31, 127, 128, 255) << place;
+                due("type of a wrong character", program.type(spoilt, n) ? 1 : 0, 0);
             }
         }
 
@@ -849,6 +875,8 @@ public final class ModelRuns {
                 boolean there = k >= 0 && k < model.definitions.size();
                 due("arms " + k, program.arms(k), there ? model.definitions.get(k).arms.size() : -1);
             }
+            due("expansions behind define", program.expansions(), model.used.size());
+            due("token 0 behind define", program.token(0), model.outcome.isEmpty() ? -1 : model.outcome.get(0).code);
         }
 
         void expand(String text) {

@@ -1,7 +1,5 @@
 /** Tests of the promises 1 to 11, one method or more for each: ordinary inputs, the edges, and wrong inputs. */
-public final class PromiseTests {
-    private static int wrong = 0;
-
+public final class PromiseTests extends Checks {
     public static void main(String[] args) {
         newObject();
         typing();
@@ -36,16 +34,13 @@ public final class PromiseTests {
         marks();
         meanings();
         expansionsAndUsed();
-        System.out.println(wrong == 0 ? "all promises are kept" : wrong + " answers are not as due");
-        if (wrong != 0) {
-            System.exit(1);
-        }
+        finish();
     }
 
     // ---- promises 1 and 2 ----
 
     private static void newObject() {
-        ArmExpander x = new ArmExpander();
+        Calls x = new Calls();
         due("new: definitions", x.definitions(), 0);
         due("new: arms", x.arms(0), -1);
         due("new: token", x.token(0), -1);
@@ -58,34 +53,34 @@ public final class PromiseTests {
     }
 
     private static void typing() {
-        ArmExpander x = new ArmExpander();
-        due("highest byte first", x.type(('a' << 8) + '+', 2) ? 1 : 0, 1);
-        due("only the lowest n bytes count", x.type(0xFF00FF00 + 'b', 1) ? 1 : 0, 1);
-        due("four bytes", x.type((' ' << 24) + ('c' << 16) + ('d' << 8) + ' ', 4) ? 1 : 0, 1);
+        Calls x = new Calls();
+        due("highest byte first", typed(x, ('a' << 8) + '+', 2), 1);
+        due("only the lowest n bytes count", typed(x, 0xFF00FF00 + 'b', 1), 1);
+        due("four bytes", typed(x, (' ' << 24) + ('c' << 16) + ('d' << 8) + ' ', 4), 1);
         due("typed", x.expand(), 4);
         dueText("typed", outcome(x, false), "a + b cd");
         due("nothing is typed behind expand", x.expand(), 0);
         typed(x, "A");
         due("typed for define", x.define(), -1);
         due("nothing is typed behind define", x.expand(), 0);
-        due("the highest character", x.type(126, 1) ? 1 : 0, 1);
+        due("the highest character", typed(x, 126, 1), 1);
         due("is none of a token", x.expand(), -1);
     }
 
     private static void refusedTyping() {
-        ArmExpander x = new ArmExpander();
+        Calls x = new Calls();
         for (int n : new int[] {0, 5, -1, Integer.MIN_VALUE, Integer.MAX_VALUE}) {
-            due("type with n " + n, x.type(0x61616161, n) ? 1 : 0, 0);
+            due("type with n " + n, typed(x, 0x61616161, n), 0);
         }
-        due("31", x.type(0x61611F61, 4) ? 1 : 0, 0);
-        due("127", x.type(0x7F616161, 4) ? 1 : 0, 0);
-        due("a negative byte", x.type(0x616161FF, 4) ? 1 : 0, 0);
-        due("0", x.type('a', 2) ? 1 : 0, 0);
+        due("31", typed(x, 0x61611F61, 4), 0);
+        due("127", typed(x, 0x7F616161, 4), 0);
+        due("a negative byte", typed(x, 0x616161FF, 4), 0);
+        due("0", typed(x, 'a', 2), 0);
         due("refused ones change nothing", x.expand(), 0);
         typed(x, "+".repeat(118));
-        due("121 characters", x.type(0x2B2B2B, 3) ? 1 : 0, 0);
-        due("120 characters", x.type(0x2B2B, 2) ? 1 : 0, 1);
-        due("one more", x.type(0x2B, 1) ? 1 : 0, 0);
+        due("121 characters", typed(x, 0x2B2B2B, 3), 0);
+        due("120 characters", typed(x, 0x2B2B, 2), 1);
+        due("one more", typed(x, 0x2B, 1), 0);
         due("all of 120", x.expand(), 120);
     }
 
@@ -152,11 +147,11 @@ public final class PromiseTests {
         defineFails("m (){$}", 6);
         defineFails("m (){$,", 6);
         defineFails("m (){$[", 6);
-        defines("m(){}", 1);
-        defines(" m ( $ x : id $y:num $z:tt $w:ex ) { $ x $y:id } ", 1);
-        defines("id ($id:id $num:num $tt:tt $ex:ex){$id $num $tt $ex}", 1);
-        defines("m (+*?:!=>;,12 a){+*?:!=>;,12 a}", 1);
-        defines("m(){};(){} ; (){}", 1);
+        defines("m(){}");
+        defines(" m ( $ x : id $y:num $z:tt $w:ex ) { $ x $y:id } ");
+        defines("id ($id:id $num:num $tt:tt $ex:ex){$id $num $tt $ex}");
+        defines("m (+*?:!=>;,12 a){+*?:!=>;,12 a}");
+        defines("m(){};(){} ; (){}");
     }
 
     private static void faultyRepetitions() {
@@ -181,105 +176,105 @@ public final class PromiseTests {
         defineFails("m (){$($($(", 10);
         defineFails("m ($(a)*$(a)*$(a)*$(a)*$(", 24);
         defineFails("m ($(a$(a)*$(a)*)*$(a)*[$(", 25);
-        defines("m ($(a)*$(a)+$(a)?$(a),*){}", 1);
-        defines("m ($(a)*$(a)*$(a)*$(a)*){};($(a)*$(a)*$(a)*$(a)*){}", 1);
-        defines("m ($($x:tt)*){$($x)*$($x)*$($x)*$($x)*$($x)*}", 1);
-        defines("m ($(a)+*$(a)*+$(a)??$(a)a*){}", 1);
-        defines("m ($(a)1+$(a):*$(a)!+$(a)=*){}", 1);
-        defines("m ($($($x:id)*;)*){$([$($x),*])*}", 1);
+        defines("m ($(a)*$(a)+$(a)?$(a),*){}");
+        defines("m ($(a)*$(a)*$(a)*$(a)*){};($(a)*$(a)*$(a)*$(a)*){}");
+        defines("m ($($x:tt)*){$($x)*$($x)*$($x)*$($x)*$($x)*}");
+        defines("m ($(a)+*$(a)*+$(a)??$(a)a*){}");
+        defines("m ($(a)1+$(a):*$(a)!+$(a)=*){}");
+        defines("m ($($($x:id)*;)*){$([$($x),*])*}");
     }
 
     private static void nestingOfDefinitions() {
         String nine = "([{([{([";
         String closed = "])}])}])";
-        defines("m (" + nine + "(" + ")" + closed + "){}", 1);
+        defines("m (" + nine + "(" + ")" + closed + "){}");
         defineFails("m (" + nine + "([", 12);
         defineFails("m (" + nine + "($(", 13);
-        defines("m (" + nine + "$(a)*" + closed + "){}", 1);
+        defines("m (" + nine + "$(a)*" + closed + "){}");
         defineFails("m (){" + nine + "([", 14);
-        defines("m (){" + nine + "()" + closed + "}", 1);
+        defines("m (){" + nine + "()" + closed + "}");
     }
 
     // ---- promise 3: checks ----
 
     private static void checkSameWord() {
-        defines("m ($x:id $x:id){}", -1000);
-        defines("m ($x:id [$($x:num)*]){}", -1000);
-        defines("m (){};($x:id,$x:tt){}", -1000);
-        defines("m ($x:id){$x};($x:num){$x}", 1);
-        defines("m ($x:id x x){$x}", 1);
+        defineRefused("m ($x:id $x:id){}", -1000);
+        defineRefused("m ($x:id [$($x:num)*]){}", -1000);
+        defineRefused("m (){};($x:id,$x:tt){}", -1000);
+        defines("m ($x:id){$x};($x:num){$x}");
+        defines("m ($x:id x x){$x}");
     }
 
     private static void checkMatchesNothing() {
-        defines("m ($()*){}", -1001);
-        defines("m ($()+){}", -1001);
-        defines("m ($()?){}", -1001);
-        defines("m ($(),*){}", -1001);
-        defines("m ($($(a)*)+){}", -1001);
-        defines("m ($($(a)?$(b)*)?){}", -1001);
-        defines("m ([$($(a),*)*]){}", -1001);
-        defines("m ($($(a)+)*){}", 1);
-        defines("m ($($(a)?b)*){}", 1);
-        defines("m ($(())*){}", 1);
-        defines("m ($([$(a)*])*){}", 1);
-        defines("m (){$()*}", -1003);
+        defineRefused("m ($()*){}", -1001);
+        defineRefused("m ($()+){}", -1001);
+        defineRefused("m ($()?){}", -1001);
+        defineRefused("m ($(),*){}", -1001);
+        defineRefused("m ($($(a)*)+){}", -1001);
+        defineRefused("m ($($(a)?$(b)*)?){}", -1001);
+        defineRefused("m ([$($(a),*)*]){}", -1001);
+        defines("m ($($(a)+)*){}");
+        defines("m ($($(a)?b)*){}");
+        defines("m ($(())*){}");
+        defines("m ($([$(a)*])*){}");
+        defineRefused("m (){$()*}", -1003);
     }
 
     private static void checkLooseExpression() {
         for (String behind : new String[] {"", ",", ";", ",a", ";+", "$(,)*", "$(;a)?$(,b)*", "$(,)+a", "$($(,)?;)*"}) {
-            defines("m ($x:ex" + behind + "){}", 1);
-            defines("m ([$x:ex" + behind + "]){}", 1);
-            defines("m (a{$x:ex" + behind + "}a){}", 1);
+            defines("m ($x:ex" + behind + "){}");
+            defines("m ([$x:ex" + behind + "]){}");
+            defines("m (a{$x:ex" + behind + "}a){}");
         }
         for (String behind : new String[] {" a", "+", "=", ":", "12", "()", "[]", "{}", "$y:tt", "$(a)*", "$(,)*a",
                 "$(,)?$(a)?", "$(;)*$y:id", "$($(,)?a)*", "$($y:ex)+", "$([,])?"}) {
-            defines("m ($x:ex" + behind + "){}", -1002);
+            defineRefused("m ($x:ex" + behind + "){}", -1002);
         }
-        defines("m ($($x:ex),*){}", 1);
-        defines("m ($($x:ex);+,a){}", 1);
-        defines("m ($($x:ex)?){}", 1);
-        defines("m ($($x:ex)?,){}", 1);
-        defines("m ($($x:ex,)*){}", 1);
-        defines("m ($(,$x:ex)*){}", 1);
-        defines("m ($($(,)?,$x:ex)*){}", 1);
-        defines("m ($($($x:ex),*;)*){}", 1);
-        defines("m ($($($x:ex),+)?){}", 1);
-        defines("m ($($x:ex)*){}", -1002);
-        defines("m ($($x:ex)+){}", -1002);
-        defines("m ($($x:ex)=*){}", -1002);
-        defines("m ($($x:ex),*a){}", -1002);
-        defines("m ($($x:ex)?a){}", -1002);
-        defines("m ($(a $x:ex)*){}", -1002);
-        defines("m ($($(a)?,$x:ex)*){}", -1002);
-        defines("m ($($($x:ex),+)a*){}", -1002);
-        defines("m ($($($x:ex),+)+){}", -1002);
-        defines("m ($x:tt a $y:id+){}", 1);
+        defines("m ($($x:ex),*){}");
+        defines("m ($($x:ex);+,a){}");
+        defines("m ($($x:ex)?){}");
+        defines("m ($($x:ex)?,){}");
+        defines("m ($($x:ex,)*){}");
+        defines("m ($(,$x:ex)*){}");
+        defines("m ($($(,)?,$x:ex)*){}");
+        defines("m ($($($x:ex),*;)*){}");
+        defines("m ($($($x:ex),+)?){}");
+        defineRefused("m ($($x:ex)*){}", -1002);
+        defineRefused("m ($($x:ex)+){}", -1002);
+        defineRefused("m ($($x:ex)=*){}", -1002);
+        defineRefused("m ($($x:ex),*a){}", -1002);
+        defineRefused("m ($($x:ex)?a){}", -1002);
+        defineRefused("m ($(a $x:ex)*){}", -1002);
+        defineRefused("m ($($(a)?,$x:ex)*){}", -1002);
+        defineRefused("m ($($($x:ex),+)a*){}", -1002);
+        defineRefused("m ($($($x:ex),+)+){}", -1002);
+        defines("m ($x:tt a $y:id+){}");
     }
 
     private static void checkWrongBody() {
-        defines("m ($x:id){$y}", -1003);
-        defines("m (){$x}", -1003);
-        defines("m ($x:id){};(){$x}", -1003);
-        defines("m ($x:id){$($x)*}", -1003);
-        defines("m ($($x:id)*){$x}", -1003);
-        defines("m ($($x:id)*){$($($x)*)*}", -1003);
-        defines("m ($($($x:id)*;)*){$($x)*}", -1003);
-        defines("m ($($x:id)* $y:num){$($x $y)*}", -1003);
-        defines("m ($x:id){$x $(a)*}", -1003);
-        defines("m ($($x:id)*){$($x $(a)*)*}", -1003);
-        defines("m ($($x:id)?){[$({$x})+]}", 1);
-        defines("m ($($($x:id)*;)*){$(a$($x)*)*}", 1);
-        defines("m ($($x:id)* $y:num){$y $($x)*}", 1);
+        defineRefused("m ($x:id){$y}", -1003);
+        defineRefused("m (){$x}", -1003);
+        defineRefused("m ($x:id){};(){$x}", -1003);
+        defineRefused("m ($x:id){$($x)*}", -1003);
+        defineRefused("m ($($x:id)*){$x}", -1003);
+        defineRefused("m ($($x:id)*){$($($x)*)*}", -1003);
+        defineRefused("m ($($($x:id)*;)*){$($x)*}", -1003);
+        defineRefused("m ($($x:id)* $y:num){$($x $y)*}", -1003);
+        defineRefused("m ($x:id){$x $(a)*}", -1003);
+        defineRefused("m ($($x:id)*){$($x $(a)*)*}", -1003);
+        defines("m ($($x:id)?){[$({$x})+]}");
+        defines("m ($($($x:id)*;)*){$(a$($x)*)*}");
+        defines("m ($($x:id)* $y:num){$y $($x)*}");
     }
 
     private static void orderOfChecks() {
-        defines("m ($x:ex $x:ex $()*){$y}", -1000);
-        defines("m ($()* $x:ex a){$y}", -1001);
-        defines("m ($x:ex a){$y}", -1002);
-        defines("m (){$y};($x:id $x:id){}", -1003);
-        defines("m ($x:ex a){};($x:id $x:id){}", -1002);
+        defineRefused("m ($x:ex $x:ex $()*){$y}", -1000);
+        defineRefused("m ($()* $x:ex a){$y}", -1001);
+        defineRefused("m ($x:ex a){$y}", -1002);
+        defineRefused("m (){$y};($x:id $x:id){}", -1003);
+        defineRefused("m ($x:ex a){};($x:id $x:id){}", -1002);
         defineFails("m ($x:id $x:id){", 16);
-        ArmExpander x = five();
+        Calls x = with("a(){}", "b(){}", "c(){}", "d(){}", "e(){}");
         due("a fault ahead of -1004", define(x, "m (){"), -6);
         due("a check ahead of -1004", define(x, "m (){$x}"), -1003);
         due("six definitions", define(x, "m (){}"), -1004);
@@ -288,7 +283,7 @@ public final class PromiseTests {
     }
 
     private static void definingFiveTimes() {
-        ArmExpander x = new ArmExpander();
+        Calls x = new Calls();
         for (int i = 1; i <= 5; i++) {
             due("a definition that is none", define(x, "m (){$x}"), -1003);
             due("definition " + i, define(x, "m (a){};(){" + i + "}"), i);
@@ -307,7 +302,7 @@ public final class PromiseTests {
     // ---- promises 5 and 6 ----
 
     private static void definitionsAndArms() {
-        ArmExpander x = new ArmExpander();
+        Calls x = new Calls();
         define(x, "m (){};(){};(){}");
         define(x, "n (){$x}");
         define(x, "m (){};(a){}");
@@ -334,7 +329,7 @@ public final class PromiseTests {
         expandFails("(((((((((((", 10);
         expands("[[[[[[[[[[]]]]]]]]]]", "[ [ [ [ [ [ [ [ [ [ ] ] ] ] ] ] ] ] ] ]");
         expands("[](){}", "[ ] ( ) { }");
-        ArmExpander x = with("m(){a}");
+        Calls x = with("m(){a}");
         due("expanded", expand(x, "m!()"), 1);
         due("faulty", expand(x, "m!() ("), -7);
         due("a faulty text has no outcome", x.token(0), -1);
@@ -365,7 +360,7 @@ public final class PromiseTests {
         expandsTo("n!()", -2000, "m(){}");
         expandsTo("m!(n!())", 0, "m($($x:tt)*){}");
         expandsTo("m!(n!())", -2000, "m($($x:tt)*){$($x)*}");
-        ArmExpander x = with("m(){a}", "m(b){c}");
+        Calls x = with("m(){a}", "m(b){c}");
         due("the definition made last alone counts", expand(x, "m!()"), -2001);
         due("it matches", expand(x, "m!(b)"), 1);
     }
@@ -549,7 +544,7 @@ public final class PromiseTests {
     // ---- promises 7 and 8 ----
 
     private static void tokens() {
-        ArmExpander x = new ArmExpander();
+        Calls x = new Calls();
         due("tokens", expand(x, "+ ( ) 0 99 a z az zzz aaa let"), 11);
         int[] codes = {43, 40, 41, 300, 399, 1001, 1026, 1000 + 27 + 26, 1000 + 26 * 757, 1757, 9903};
         for (int i = 0; i < codes.length; i++) {
@@ -592,7 +587,7 @@ public final class PromiseTests {
         means("let 7 a 7", -1, -1, -1, -1);
         means("let aa a aa aaa", -1, 1, -1, 1, -1);
         means("let a (let b) [let c] a b c", -1, 1, -1, -1, 4, -1, -1, -1, 8, -1, 1, -1, -1);
-        ArmExpander x = with("n ($a:id){let t=$a;$a+t}", "l(){let}", "k($x:tt){let t $x t}");
+        Calls x = with("n ($a:id){let t=$a;$a+t}", "l(){let}", "k($x:tt){let t $x t}");
         due("hygiene", expand(x, "let t=5;n!(t)t"), 14);
         // let t = 5 ; let.1 t.1 = t ; t + t.1 t
         int[] meant = {-1, 1, -1, -1, -1, -1, 6, -1, 1, -1, 1, -1, 6, 1};
@@ -611,7 +606,7 @@ public final class PromiseTests {
     // ---- promises 10 and 11 ----
 
     private static void expansionsAndUsed() {
-        ArmExpander x = with("m(a){};(b){m!(a)};($x:num){m!(a)m!(a)n!(c)}", "n(){}");
+        Calls x = with("m(a){};(b){m!(a)};($x:num){m!(a)m!(a)n!(c)}", "n(){}");
         due("no call", expand(x, "a b"), 2);
         due("no expansion", x.expansions(), 0);
         due("none used", x.used(1), -1);
@@ -638,127 +633,5 @@ public final class PromiseTests {
         x = with("m(b){};($(a)*$(a)*){}");
         due("ambiguous", expand(x, "m!()m!(b)m!(a)"), -2002);
         used(x, 1, 0);
-    }
-
-    private static void used(ArmExpander x, int... arms) {
-        due("expansions", x.expansions(), arms.length);
-        for (int i = 0; i < arms.length; i++) {
-            due("used " + (i + 1), x.used(i + 1), arms[i]);
-        }
-        for (int k : new int[] {0, -1, arms.length + 1, 10 + arms.length, Integer.MIN_VALUE, Integer.MAX_VALUE}) {
-            due("used " + k, x.used(k), -1);
-        }
-    }
-
-    // ---- what the tests are made of ----
-
-    private static void due(String what, int got, int want) {
-        if (got != want) {
-            wrong++;
-            System.out.println(what + ": answered " + got + ", due is " + want);
-        }
-    }
-
-    private static void dueText(String what, String got, String want) {
-        if (!got.equals(want)) {
-            wrong++;
-            System.out.println(what + ": came to \"" + got + "\", due is \"" + want + "\"");
-        }
-    }
-
-    private static void typed(ArmExpander x, String text) {
-        for (int i = 0; i < text.length(); i += 4) {
-            int n = Math.min(4, text.length() - i);
-            int word = 0;
-            for (int j = i; j < i + n; j++) {
-                word = word << 8 | text.charAt(j);
-            }
-            due("type \"" + text + "\" at " + i, x.type(word, n) ? 1 : 0, 1);
-        }
-    }
-
-    private static int define(ArmExpander x, String text) {
-        typed(x, text);
-        return x.define();
-    }
-
-    private static int expand(ArmExpander x, String text) {
-        typed(x, text);
-        return x.expand();
-    }
-
-    private static ArmExpander with(String... definitions) {
-        ArmExpander x = new ArmExpander();
-        for (int i = 0; i < definitions.length; i++) {
-            due("define " + definitions[i], define(x, definitions[i]), i + 1);
-        }
-        return x;
-    }
-
-    private static ArmExpander five() {
-        return with("a(){}", "b(){}", "c(){}", "d(){}", "e(){}");
-    }
-
-    private static void defines(String text, int want) {
-        due("define " + text, define(new ArmExpander(), text), want);
-    }
-
-    private static void defineFails(String text, int at) {
-        ArmExpander x = new ArmExpander();
-        due("define " + text, define(x, text), -1 - at);
-        due("definitions behind " + text, x.definitions(), 0);
-    }
-
-    private static void expandFails(String text, int at) {
-        due("expand " + text, expand(new ArmExpander(), text), -1 - at);
-    }
-
-    private static void expandsTo(String text, int want, String... definitions) {
-        due("expand " + text, expand(with(definitions), text), want);
-    }
-
-    /** The outcome is this one, whatever its marks. */
-    private static void expands(String text, String want, String... definitions) {
-        ArmExpander x = with(definitions);
-        expand(x, text);
-        dueText("expand " + text, outcome(x, false), want);
-    }
-
-    /** The outcome is this one, with .k behind each token of the mark k, if that is not 0. */
-    private static void expandsMarked(String text, String want, String... definitions) {
-        ArmExpander x = with(definitions);
-        expand(x, text);
-        dueText("expand " + text, outcome(x, true), want);
-    }
-
-    private static void means(String text, int... places) {
-        ArmExpander x = new ArmExpander();
-        due("expand " + text, expand(x, text), places.length);
-        for (int i = 0; i < places.length; i++) {
-            due("means " + i + " of " + text, x.means(i), places[i]);
-        }
-    }
-
-    private static String code(int token) {
-        if (token < 300) {
-            return String.valueOf((char) token);
-        }
-        if (token < 1000) {
-            return String.valueOf(token - 300);
-        }
-        StringBuilder word = new StringBuilder();
-        for (int rest = token - 1000; rest > 0; rest /= 27) {
-            word.insert(0, (char) ('a' + rest % 27 - 1));
-        }
-        return word.toString();
-    }
-
-    private static String outcome(ArmExpander x, boolean marks) {
-        StringBuilder out = new StringBuilder();
-        for (int i = 0; x.token(i) != -1; i++) {
-            out.append(i > 0 ? " " : "").append(code(x.token(i)));
-            out.append(marks && x.mark(i) != 0 ? "." + x.mark(i) : "");
-        }
-        return out.toString();
     }
 }
