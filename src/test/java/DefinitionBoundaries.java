@@ -31,6 +31,7 @@ public final class DefinitionBoundaries extends Checks {
         repetitionsWithoutUse();
         orderOfChecksInOneArm();
         orderOfChecksOfTwoArms();
+        definitionsOf120Characters();
         fiveDefinitions();
         orderOfAnswers();
         noneInAllTheseCases();
@@ -515,6 +516,21 @@ public final class DefinitionBoundaries extends Checks {
     }
 
     // ---- promises 3, 5 and 6 ----
+
+    private static void definitionsOf120Characters() {
+        sentence("Takes what is typed as a definition (the longest there can be)");
+        String pluses = "+".repeat(115);
+        expandsTo("m!(" + pluses + ")", 0, "m(" + pluses + "){}");
+        expandErrs("m!(" + pluses + "+)", -2001, 0, "m(" + pluses + "){}");
+        expandsTo("m!()", 115, "m(){" + pluses + "}");
+        expandsTo("m!()+", 116, "m(){" + pluses + "}");
+        expandErrs("m!()m!()", -2005, 1, "m(){" + pluses + "}");
+        expands("m!(" + "+".repeat(107) + "a)", "a", "m(" + "+".repeat(107) + "$x:id){$x}");
+        expandErrs("m!(" + "+".repeat(107) + "7)", -2001, 0, "m(" + "+".repeat(107) + "$x:id){$x}");
+        defineFails("m(" + pluses + "){ ", 120);
+        defineFails("m(" + pluses + "){A", 119);
+        defineFails("m(){" + pluses + ")", 119);
+    }
 
     private static void fiveDefinitions() {
         sentence("Answers how many definitions there are then; -1004 if there are 5 already");

@@ -18,6 +18,7 @@ public final class ExpansionBoundaries extends Checks {
         oneExpressionInABracket();
         sixBrackets();
         sixBracketsOfTheSameFragment();
+        bracketsThatGrow();
         whatIsACall();
         tokensFromWherever();
         definitionMadeLast();
@@ -159,6 +160,13 @@ public final class ExpansionBoundaries extends Checks {
         expandErrs("m!(a e)", -2001, 0, "m($(a b)?$(a c)?$(a d)?){}");
         expandsTo("m!([7])", 0, "m($([$x:id])?$([$y:num])?){}");
         expandsTo("m!(" + MANY_A + "7)", 0, "m($(a)*b){};($(a)*$x:num){}");
+        // Those that do not step are gone, also where their way would lead to the same place.
+        String two = "m($($(c a)?$(d a)?$x:num)*){$($x;)*}";
+        expands("m!(c a 7 c a 8)", "7 ; 8 ;", two);
+        expands("m!(d a 7 c a d a 8 9)", "7 ; 8 ; 9 ;", two);
+        // A token is like another one whatever its mark.
+        expands("m!(a)", "7", "m($x:id){n!(a$x)}", "n(a a){7}");
+        expands("m!(a[])", "7", "m($x:id$y:tt){n!($x[]a$y)}", "n(a[]a[]){7}");
     }
 
     private static void noExpression() {
@@ -168,6 +176,10 @@ public final class ExpansionBoundaries extends Checks {
             expandsTo("m!(" + none + ")", 1, "m($x:ex){1 1 1};($x:tt){1}");
             expandErrs("m!(" + none + ")", -2001, 0, "m($x:ex){}");
         }
+        // What comes later is not looked at: it would be ambiguous.
+        expandErrs("m!(c,a)", -2002, 0, "m($x:ex,$(a)?$y:id){}");
+        expandErrs("m!((c b,a))", -2001, 0, "m($x:ex,$(a)?$y:id){}");
+        expandErrs("m!((),a)", -2001, 0, "m($x:ex,$(a)?$y:id){}");
     }
 
     private static void noneStepping() {
@@ -257,6 +269,15 @@ public final class ExpansionBoundaries extends Checks {
         expandErrs("m!(((" + deep(7) + ")))", -2001, 0, "m((($x:ex))){$x}");
         expandsTo("m!([{" + deep(6) + "}])", 15, "m([{$x:ex}]){$x}");
         expandsTo("[[m!(" + deep(6) + ")]]", 19, "m($x:ex){$x}");
+    }
+
+    private static void bracketsThatGrow() {
+        sentence("in six such brackets of the same fragment (from wherever)");
+        // Each expansion puts one more bracket around the sum: the eighth call's is in seven.
+        expandErrs("m!(a+b)", -2001, 7, "m($x:ex){m!($x)}");
+        expandErrs("m!(a)", -2004, 10, "m($x:ex){m!($x)}");
+        expandsMarked("m!(a+b)", "(.2 (.1 a + b ).1 ).2", "m($x:ex){n!($x)}", "n($x:ex){$x}");
+        expandsMarked("m!(a)", "(.2 (.1 a ).1 ).2", "m($x:ex){n!(($x))}", "n($x:ex){$x}");
     }
 
     private static String deep(int brackets) {
@@ -476,6 +497,11 @@ public final class ExpansionBoundaries extends Checks {
         // The pattern's separator and mark are not the body's.
         expandsMarked("m!(1,2)", "1 2", "m($($x:num),+){$($x)*}");
         expandsMarked("m!(1)m!()", "1", "m($($x:num)?){$($x);+}");
+        // Rounds of one repetition are not the other one's, nor those of an earlier call.
+        String both = "m($($x:id)*$($y:num)*){$($x,)*$($y;)*}";
+        expands("m!(a b 1)", "a , b , 1 ;", both);
+        expands("m!(a b c 1 2)", "a , b , c , 1 ; 2 ;", both);
+        expands("m!(1 2 3)m!(a)m!()m!(1)", "1 ; 2 ; 3 ; a , 1 ;", both);
     }
 
     private static void roundsOfTwoRepetitions() {
@@ -486,6 +512,7 @@ public final class ExpansionBoundaries extends Checks {
         expands("m!([])", "{ }", m);
         expands("m!([1])", "{ 1 }", m);
         expands("m!([][1 2][][3])", "{ } { 1 , 2 } { } { 3 }", m);
+        expands("m!([1 2 3])m!([1 2])m!([])m!()", "{ 1 , 2 , 3 } { 1 , 2 } { }", m);
         expands("m!(a[1]b[]c[2 3])", "a 1 ; b ; c 2 3 ;", "m($($y:id[$($x:num)*])*){$($y$($x)*;)*}");
         // Rounds of the inner one are counted from its own beginning, in each round of the outer one.
         expands("m!(1 2,3,4 5)", "1 2 ; 3 ; 4 5", "m($($($x:num)+),*){$($($x)*);*}");
@@ -583,6 +610,9 @@ public final class ExpansionBoundaries extends Checks {
             means(opening + "let a" + opening + "a" + closing + closing, -1, -1, 2, -1, 2, -1, -1);
             means(opening + "let a" + closing + opening + "a" + closing, -1, -1, 2, -1, -1, -1, -1);
             means("let a" + pair + "a", -1, 1, -1, -1, 1);
+            means(opening + "let a" + pair + closing + "a", -1, -1, 2, -1, -1, -1, -1);
+            means(opening + "let a" + pair + "a" + closing, -1, -1, 2, -1, -1, 2, -1);
+            means("let a" + opening + pair + closing + "a", -1, 1, -1, -1, -1, -1, 1);
             means("" + opening + opening + "let a" + closing + "a" + closing, -1, -1, -1, 3, -1, -1, -1);
         }
     }
