@@ -19,6 +19,7 @@ public final class ExpansionBoundaries extends Checks {
         sixBrackets();
         sixBracketsOfTheSameFragment();
         bracketsThatGrow();
+        bracketsInMoreThanNine();
         whatIsACall();
         tokensFromWherever();
         definitionMadeLast();
@@ -278,6 +279,22 @@ public final class ExpansionBoundaries extends Checks {
         expandErrs("m!(a)", -2004, 10, "m($x:ex){m!($x)}");
         expandsMarked("m!(a+b)", "(.2 (.1 a + b ).1 ).2", "m($x:ex){n!($x)}", "n($x:ex){$x}");
         expandsMarked("m!(a)", "(.2 (.1 a ).1 ).2", "m($x:ex){n!(($x))}", "n($x:ex){$x}");
+    }
+
+    private static void bracketsInMoreThanNine() {
+        sentence("No opening bracket is in more than nine others. (of a text; no error of an expansion speaks of it)");
+        String nine = "[".repeat(9) + "a" + "]".repeat(9);
+        expandsTo("m!(" + nine + ")", 21, "m($x:tt){($x)}");
+        expandsTo("m!(" + nine + ")", 37, "m($x:tt){" + "{".repeat(9) + "$x" + "}".repeat(9) + "}");
+        // What has grown is matched, taken and replaced like any other row.
+        expandsTo("m!(" + nine + ")", 19, "m($x:tt){n!({([$x])})}", "n({($x:tt)}){n!($x)};([$x:tt]){$x}");
+        String seven = "m(){let a a};(+$($x:tt)*){" + "[".repeat(7) + "m!($($x)*)" + "]".repeat(7) + "}";
+        Calls x = with(seven);
+        due("63 brackets around the last call", expand(x, "m!(+++++++++)"), 129);
+        due("the innermost bracket", x.token(62), '[');
+        due("its binder", x.means(65), 64);
+        due("the 63rd closing one", x.token(128), ']');
+        expandErrs("m!(++++++++++)", -2004, 10, seven);
     }
 
     private static String deep(int brackets) {
