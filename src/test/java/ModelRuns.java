@@ -957,7 +957,7 @@ public final class ModelRuns {
             for (int i = 0; i < most; i++) {
                 int way = random.nextInt(20);
                 if (way < 8) {
-                    String word = pick("x", "y", "z", "w", "v") + (random.nextInt(40) == 0 ? "" : name());
+                    String word = pick("x", "y", "z", "w", "v") + (random.nextInt(12) == 0 ? "" : name());
                     depths.put(word, inRepetitions);
                     String kind = pick("id", "num", "tt", "ex", "ex", "tt");
                     out.append("$").append(word).append(":").append(kind);
@@ -997,10 +997,11 @@ public final class ModelRuns {
                         deeper.remove(word);
                     }
                 }
-                if (way < 7 && !words.isEmpty()) {
+                // Mostly uses in repetitions: different ones there are what can be unequal.
+                if (way < (inRepetitions > 0 ? 14 : 7) && !words.isEmpty()) {
                     out.append("$").append(words.get(random.nextInt(words.size()))).append(" ");
                 } else if (way < 12 && !deeper.isEmpty() && inRepetitions < 2) {
-                    out.append("$(").append(parts(1 + random.nextInt(2), inRepetitions + 1, inBrackets + 1));
+                    out.append("$(").append(parts(1 + random.nextInt(3), inRepetitions + 1, inBrackets + 1));
                     out.append(")").append(pick("", ",", ";", "a ")).append(pick("*", "+"));
                 } else if (way < 13 && inBrackets < 4) {
                     String bracket = pick("()", "[]", "{}");
